@@ -26,7 +26,7 @@ public final class CardBook {
             throw new IllegalArgumentException("the number of cells is not 1 .. 16384");
         }
         int before = cells;
-        // While the old number still holds: it tells which cards may bear a mark.
+        // While the old number still holds, so that no entry behind the new last card keeps a mark.
         clear();
         cells = n;
         return before;
