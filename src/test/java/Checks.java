@@ -4,6 +4,9 @@ final class Checks {
         Object run();
     }
 
+    // A next card that is wrong must end a test, not keep it going for ever.
+    private static final int MOST_CARDS = 512;
+
     private int wrong = 0;
 
     void equal(String what, Object got, Object due) {
@@ -36,6 +39,21 @@ final class Checks {
         text.append(book.count(2)).append(' ').append(book.count(3)).append(' ');
         for (int c = 0; c < cards; c++) {
             text.append(book.card(c));
+        }
+        return text.toString();
+    }
+
+    /** Cells, cards, and which cards are dirty and which saved; it spends few calls where few are marked. */
+    static String marks(CardBook book) {
+        StringBuilder text = new StringBuilder();
+        text.append(book.count(0)).append(" cells ").append(book.count(1)).append(" cards ");
+        text.append(book.count(2)).append(" dirty");
+        for (int c = book.nextDirty(0), n = 0; c != CardBook.NONE && n < MOST_CARDS; c = book.nextDirty(c + 1), n++) {
+            text.append(' ').append(c);
+        }
+        text.append(' ').append(book.count(3)).append(" saved");
+        for (int c = book.nextSaved(0), n = 0; c != CardBook.NONE && n < MOST_CARDS; c = book.nextSaved(c + 1), n++) {
+            text.append(' ').append(c);
         }
         return text.toString();
     }
