@@ -27,6 +27,9 @@ public final class FaceTest {
         Checks checks = new Checks();
         Class<?> type = CardBook.class;
         checks.equal("the class", Modifier.toString(type.getModifiers()), "public final");
+        checks.equal("the class above it", type.getSuperclass(), Object.class);
+        checks.equal("its interfaces", type.getInterfaces().length, 0);
+        checks.equal("NONE", CardBook.NONE, -1);
         Set<String> shown = new TreeSet<>();
         Arrays.stream(type.getDeclaredFields()).filter(FaceTest::isShown).map(Field::toString).forEach(shown::add);
         Arrays.stream(type.getDeclaredConstructors()).filter(FaceTest::isShown).map(Constructor::toString)
@@ -34,6 +37,7 @@ public final class FaceTest {
         Arrays.stream(type.getDeclaredMethods()).filter(FaceTest::isShown).map(Method::toString).forEach(shown::add);
         checks.equal("the face", shown, new TreeSet<>(FACE));
         checks.equal("private methods with a public name", sharedNames(type), Set.of());
+        checks.equal("static fields that can change", changingStatics(type), Set.of());
         checks.end();
     }
 
@@ -49,5 +53,16 @@ public final class FaceTest {
         }
         hidden.retainAll(open);
         return hidden;
+    }
+
+    /** State that all books share would make one book's answers depend on another's calls. */
+    private static Set<String> changingStatics(Class<?> type) {
+        Set<String> found = new TreeSet<>();
+        for (Field f : type.getDeclaredFields()) {
+            if (Modifier.isStatic(f.getModifiers()) && !Modifier.isFinal(f.getModifiers())) {
+                found.add(f.getName());
+            }
+        }
+        return found;
     }
 }
